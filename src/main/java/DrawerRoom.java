@@ -1186,23 +1186,18 @@ public final class DrawerRoom {
             return NONE;
         }
 
+        /** Of headings in order the last one is the first that would not be covered. */
         private boolean hasBadHeadings(int drawer) {
             int size = drawers.get(drawer, Drawers.SIZE);
-            if (size > 2 * drawers.half()) {
-                return true;
-            }
-            int last = NONE;
-            for (int k = 0; k < size; k++) {
+            int last = drawers.heading(drawer, 0);
+            for (int k = 1; k < size; k++) {
                 int heading = drawers.heading(drawer, k);
-                if (k > 0 && !filing.isAhead(last, heading)) {
-                    return true;
-                }
-                if (!drawers.covers(drawer, heading)) {
+                if (!filing.isAhead(last, heading)) {
                     return true;
                 }
                 last = heading;
             }
-            return false;
+            return size > 2 * drawers.half() || (size > 0 && !drawers.covers(drawer, last));
         }
 
         private boolean hasBadChildren(int drawer) {
