@@ -1050,6 +1050,43 @@ public final class PromisesTest {
         due("again: the same top", room.count(3), 2);
         due("used on", whole(room, 0, FILE, 60), 1);
         fallOfFour();
+        fallOutOfOrder();
+    }
+
+    /** A guide parted without a latch is filled and parted again by a clerk who asks for no cover. */
+    private static void fallOutOfOrder() {
+        DrawerRoom room = new DrawerRoom(2);
+        for (int i = 1; i <= 20; i++) whole(room, 3, FILE, 10 * i);
+        due("five full leaves and a full top", room.night(4), 6);
+        room.fault(0, 2);
+        room.fault(1, 1);
+        room.begin(0, FILE, 45);
+        room.step(0, 7);
+        due("0 parted the top", room.clerk(0, 0), RISING);
+        due("and rises with", room.clerk(0, 3), 80);
+        headings("the top", room, 5, 40, 60);
+        edge("the top", room, 5, 1, 80, 7);
+        due("sound till then", room.shape(), NONE);
+        for (int heading : new int[] {300, 310}) due("filed", whole(room, 1, FILE, heading), 1);
+        due("a leaf that doesn't cover", room.shape(), 6);
+        due("filed", whole(room, 1, FILE, 320), 1);
+        headings("the top", room, 5, 40, 60, 300);
+        children("the top", room, 5, 0, 1, 6, 8);
+        edge("a leaf with a higher HIGH", room, 6, 0, 300, 8);
+        edge("and the next with the old one", room, 8, 0, 80, 2);
+        due("the top doesn't cover", room.shape(), 5);
+        for (int heading : new int[] {330, 340, 350, 360, 370}) due("filed", whole(room, 1, FILE, heading), 1);
+        room.begin(1, FILE, 380);
+        room.step(1, 7);
+        due("1 parted the top again", room.clerk(1, 0), RISING);
+        due("and rises with", room.clerk(1, 3), 300);
+        due("two are lost", room.fall(), 2);
+        due("the new top", room.count(3), 12);
+        headings("the new top", room, 12, 300, 80);
+        children("the new top", room, 12, 5, 11, 7);
+        edge("the new top", room, 12, 2, NONE, NONE);
+        due("the least bad one", room.shape(), 10);
+        due("thirty cards", room.count(5), 30);
     }
 
     /** Four clerks part leaf after leaf with no top above: five children. */
