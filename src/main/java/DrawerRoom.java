@@ -123,9 +123,6 @@ public final class DrawerRoom {
         if (job < 0 || job >= jobs.begun() || what < Jobs.KIND || what > Jobs.LOST) {
             return NONE;
         }
-        if (what == Jobs.ANSWER && jobs.get(job, Jobs.ENDED) == NONE) {
-            return NONE;
-        }
         return jobs.get(job, what);
     }
 
@@ -796,8 +793,8 @@ public final class DrawerRoom {
             set(job, STEPS, get(job, STEPS) + 1);
         }
 
+        /** The answer waits for the end of the job, but what was there at a time doesn't. */
         void changeCards(int job) {
-            set(job, ANSWER, 1);
             set(job, CHANGED, time());
         }
 
