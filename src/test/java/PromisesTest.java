@@ -1,32 +1,6 @@
 /** Each promise of the document by hand: ordinary inputs, the edges it names, wrong inputs. */
-public final class PromisesTest {
-    private static final int NONE = DrawerRoom.NONE;
-    private static final int SEEK = 0;
-    private static final int FILE = 1;
-    private static final int PULL = 2;
-    private static final int IDLE = 0;
-    private static final int READING = 1;
-    private static final int HOLDING = 2;
-    private static final int WRITING = 3;
-    private static final int RISING = 4;
-    private static final int[] WRONG_CLERKS = {-1, 4, Integer.MIN_VALUE, Integer.MAX_VALUE};
-    private static final int[] WRONG_HEADINGS = {-1, 10000, Integer.MIN_VALUE, Integer.MAX_VALUE};
+public final class PromisesTest extends Checks {
     private static final int[] WRONG_NUMBERS = {-2, 600, Integer.MIN_VALUE, Integer.MAX_VALUE};
-
-    private static int checked = 0;
-    private static int wrong = 0;
-
-    private static void due(String what, int got, int want) {
-        checked++;
-        if (got != want) {
-            wrong++;
-            System.out.println(what + " answered " + got + ", due is " + want);
-        }
-    }
-
-    private static void due(String what, boolean got, boolean want) {
-        due(what, got ? 1 : 0, want ? 1 : 0);
-    }
 
     public static void main(String[] args) {
         promise01NewObject();
@@ -55,67 +29,8 @@ public final class PromisesTest {
         promise18Fall();
         promise19Night();
         promise20Count();
-        System.out.println("PromisesTest: " + checked + " answers, " + wrong + " wrong");
-        if (wrong != 0) System.exit(1);
+        finish("PromisesTest");
     }
-
-    // ---- small helps
-
-    private static int rule(DrawerRoom room, String text) {
-        return rule(room, text, text.length());
-    }
-
-    private static int rule(DrawerRoom room, String text, int n) {
-        int[] w = new int[5];
-        for (int i = 0; i < 20; i++) w[i / 4] = w[i / 4] << 8 | (i < text.length() ? text.charAt(i) : ' ');
-        return room.rule(n, w[0], w[1], w[2], w[3], w[4]);
-    }
-
-    private static int whole(DrawerRoom room, int clerk, int kind, int heading) {
-        int job = room.begin(clerk, kind, heading);
-        room.step(clerk, 30);
-        return room.job(job, 2);
-    }
-
-    private static DrawerRoom filled(int b, int... headings) {
-        DrawerRoom room = new DrawerRoom(b);
-        for (int heading : headings) whole(room, 3, FILE, heading);
-        return room;
-    }
-
-    private static void headings(String what, DrawerRoom room, int drawer, int... want) {
-        due(what + ": how many in drawer " + drawer, room.drawer(drawer, 2), want.length);
-        for (int k = 0; k < want.length; k++) {
-            due(what + ": at(" + drawer + ", " + k + ", false)", room.at(drawer, k, false), want[k]);
-        }
-        due(what + ": behind the last of " + drawer, room.at(drawer, want.length, false), NONE);
-    }
-
-    private static void children(String what, DrawerRoom room, int drawer, int... want) {
-        for (int k = 0; k < want.length; k++) {
-            due(what + ": at(" + drawer + ", " + k + ", true)", room.at(drawer, k, true), want[k]);
-        }
-        due(what + ": behind the last child of " + drawer, room.at(drawer, want.length, true), NONE);
-    }
-
-    private static void edge(String what, DrawerRoom room, int drawer, int level, int high, int thread) {
-        due(what + ": level of " + drawer, room.drawer(drawer, 1), level);
-        due(what + ": high of " + drawer, room.drawer(drawer, 3), high);
-        due(what + ": thread of " + drawer, room.drawer(drawer, 4), thread);
-    }
-
-    private static void cards(String what, DrawerRoom room, int... want) {
-        due(what + ": how many cards", room.count(5), want.length);
-        for (int k = 0; k < want.length; k++) due(what + ": nth(" + k + ")", room.nth(k), want[k]);
-        due(what + ": behind the last card", room.nth(want.length), NONE);
-    }
-
-    /** Two leaves, drawer 0 with 10 20 30 and drawer 1 with 40 50, under drawer 2. */
-    private static DrawerRoom twoLeaves() {
-        return filled(2, 10, 20, 30, 40, 50);
-    }
-
-    // ---- the promises
 
     private static void promise01NewObject() {
         int[] told = {Integer.MIN_VALUE, -1, 0, 1, 2, 3, 4, 5, 6, 9, Integer.MAX_VALUE};
