@@ -1,3 +1,6 @@
+import java.util.Arrays;
+import java.util.Random;
+
 /** The boundary cases of ==== 4 of the terms and of promises 11 to 17 and 20, a test for each sentence. */
 public final class BoundariesOfAnswersTest extends Checks {
     private static final int[] WRONG_PLACES = {-1, -2, 1000, LEAST, MOST};
@@ -19,6 +22,7 @@ public final class BoundariesOfAnswersTest extends Checks {
         lineOfAnswers();
         lineWithoutJobs();
         firstRowByNumbers();
+        everyRowTried();
         orderThatIsNone();
         badOrder();
         badCover();
@@ -159,6 +163,13 @@ public final class BoundariesOfAnswersTest extends Checks {
         int[] want = {0, 0, 0, 1, 1, 1, 0, 0, 0, 1};
         for (int t = 0; t < want.length; t++) due("at " + t, room.there(5, 5, t), want[t]);
         due("once", room.there(0, 9999, 9), 1);
+        room = new DrawerRoom(2);
+        room.begin(0, PULL, 5);
+        whole(room, 1, FILE, 5);
+        room.step(0, 30);
+        due("job 0 pulled what job 1 had filed", room.job(0, 2), 1);
+        due("not there", room.there(5, 5, 6), 0);
+        due("but just before", room.there(5, 5, 5), 1);
     }
 
     private static void thereByAnswerOne() {
@@ -381,6 +392,63 @@ public final class BoundariesOfAnswersTest extends Checks {
         for (int k = 0; k < 4; k++) due("one that waits: " + k, room.order(5, k), row[k]);
     }
 
+    /** Up to nine jobs of one heading by clerks who mind no latch, and every row of them tried. */
+    private static void everyRowTried() {
+        sentence("whether they can be put in a row");
+        int[] seen = new int[3];
+        for (int seed = 0; seed < 3000; seed++) {
+            Random random = new Random(seed);
+            DrawerRoom room = new DrawerRoom(2);
+            for (int clerk = 0; clerk < 4; clerk++) room.fault(clerk, 2 * random.nextInt(2));
+            int left = 1 + random.nextInt(9);
+            for (int i = 0; i < 300 && (left > 0 || room.count(6) > 0); i++) {
+                int clerk = random.nextInt(4);
+                if (room.clerk(clerk, 0) != IDLE) {
+                    room.step(clerk, 1);
+                } else if (left > 0) {
+                    boolean other = random.nextInt(4) == 0;
+                    room.begin(clerk, random.nextInt(3), other ? 6 : 5);
+                    if (!other) left--;
+                }
+            }
+            int[] row = firstRow(room, 5);
+            due("seed " + seed, room.line(5), row == null ? 0 : 1);
+            seen[row == null ? 0 : inTurn(row) ? 1 : 2]++;
+            for (int k = 0; k < 9; k++) due("seed " + seed + ", " + k, room.order(5, k), row == null || k >= row.length ? NONE : row[k]);
+        }
+        for (int kind = 0; kind < 3; kind++) due("not sound, in turn, and in another order: often", seen[kind] > 100, true);
+    }
+
+    private static boolean inTurn(int[] row) {
+        for (int k = 1; k < row.length; k++) if (row[k] < row[k - 1]) return false;
+        return true;
+    }
+
+    private static int[] firstRow(DrawerRoom room, int heading) {
+        int[] mine = new int[room.count(2)];
+        int howMany = 0;
+        for (int job = 0; job < mine.length; job++) if (room.job(job, 1) == heading) mine[howMany++] = job;
+        int[] row = new int[howMany];
+        return goesOn(room, Arrays.copyOf(mine, howMany), row, 0, false) ? row : null;
+    }
+
+    private static boolean goesOn(DrawerRoom room, int[] left, int[] row, int length, boolean there) {
+        if (left.length == 0) return true;
+        for (int i = 0; i < left.length; i++) {
+            int job = left[i];
+            boolean ahead = true;
+            for (int other : left) if (other != job && room.job(other, 4) <= room.job(job, 3)) ahead = false;
+            int kind = room.job(job, 0);
+            int right = kind == FILE ? (there ? 0 : 1) : there ? 1 : 0;
+            if (!ahead || room.job(job, 2) != right) continue;
+            int[] rest = new int[left.length - 1];
+            for (int k = 0; k < rest.length; k++) rest[k] = left[k < i ? k : k + 1];
+            row[length] = job;
+            if (goesOn(room, rest, row, length + 1, kind == SEEK ? there : kind == FILE)) return true;
+        }
+        return false;
+    }
+
     private static void orderThatIsNone() {
         sentence("The k-th JOB (from 0 on) of ITS ORDER; NONE if there is none.");
         DrawerRoom room = new DrawerRoom(2);
@@ -438,8 +506,22 @@ public final class BoundariesOfAnswersTest extends Checks {
         room.step(1, 30);
         headings("one behind HIGH", room, 0, 10, 20, 30, 31);
         due("bad", room.shape(), 0);
+        for (int heading : new int[] {10, 20, 30}) whole(room, 0, PULL, heading);
+        headings("it alone", room, 0, 31);
+        due("bad", room.shape(), 0);
         due("by a clerk who doesn't ask either", pullUnasked(room, 31), 1);
+        headings("no card", room, 0);
         due("sound again", room.shape(), NONE);
+        // A leaf without cards covers all it has, whatever HIGH and RULE are.
+        for (String text : new String[] {"d-;", "d+;", "a-b-c-d-;"}) {
+            DrawerRoom ruled = ruled(2, text);
+            int[] some = {2, 1, 0, 10, 20};
+            for (int heading : some) whole(ruled, 0, FILE, heading);
+            for (int heading : some) whole(ruled, 0, PULL, heading);
+            due(text + " has a HIGH", ruled.drawer(0, 3) >= 0, true);
+            headings(text + " has no card", ruled, 0);
+            due(text + " is sound", ruled.shape(), NONE);
+        }
     }
 
     /** An old reading of the leaf lets a clerk who doesn't ask pull what stands behind HIGH. */
@@ -618,6 +700,16 @@ public final class BoundariesOfAnswersTest extends Checks {
             for (int k : new int[] {6, 7, 8, -2, LEAST, MOST}) due("six: " + k, room.found(6, k), NONE);
             for (int k : new int[] {7, 8, -2, LEAST, MOST}) due("seven: " + k, room.found(7, k), NONE);
             for (int k = -1; k < 6; k++) due("no row of five: " + k, room.found(5, k), NONE);
+        }
+        // One pair behind the other in the same room.
+        DrawerRoom bad = tens(2, 4);
+        Inside.setHeading(bad, 0, 0, 9999);
+        for (int[] pair : new int[][] {{2, 3}, {0, 1}, {1, 3}, {0, 2}}) {
+            for (int clerk : pair) bad.begin(clerk, SEEK, 20);
+            due("the lower one", bad.found(3, 0), pair[0]);
+            due("the other one", bad.found(3, 1), pair[1]);
+            due("nobody", bad.found(3, 2), NONE);
+            for (int clerk : pair) bad.step(clerk, 30);
         }
         // The clerk who does wrong is the lower one: his steps come as late as they may.
         DrawerRoom room = twoLeaves();

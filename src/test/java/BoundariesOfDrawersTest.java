@@ -413,5 +413,17 @@ public final class BoundariesOfDrawersTest extends Checks {
         }
         headings("the one leaf", room, 0);
         edge("the one leaf", room, 0, 0, NONE, NONE);
+        // Leaf 6 had two cards, guide 7 three children, guide 8 two.
+        room = tens(2, 17);
+        headings("it was in use", room, 6, 160, 170);
+        due("a night", room.night(4), 6);
+        for (int drawer = 6; drawer < 9; drawer++) {
+            due("spare", room.drawer(drawer, 0), 0);
+            for (int what = 1; what < 6; what++) due("drawer(" + drawer + ", " + what + ")", room.drawer(drawer, what), NONE);
+            for (int k = 0; k < 3; k++) {
+                due("at(" + drawer + ", " + k + ", false)", room.at(drawer, k, false), NONE);
+                due("at(" + drawer + ", " + k + ", true)", room.at(drawer, k, true), NONE);
+            }
+        }
     }
 }

@@ -375,6 +375,17 @@ public final class BoundariesOfNightsTest extends Checks {
         headings("in order", room, 0, 10, 20, 30);
         headings("once", room, 1, 40, 50, 60);
         cards("once", room, 10, 20, 30, 40, 50, 60);
+        // The first of all, too.
+        room = tens(2, 4);
+        room.fault(1, 1);
+        room.begin(1, FILE, 60);
+        whole(room, 0, FILE, 50);
+        whole(room, 0, FILE, 60);
+        room.step(1, 30);
+        for (int i = 1; i <= 5; i++) whole(room, 0, PULL, 10 * i);
+        cards("nothing but 60, twice", room, 60, 60);
+        due("a night", room.night(2), 1);
+        headings("once", room, 0, 60);
     }
 
     private static void nightOfTheRow() {
