@@ -7,6 +7,7 @@ public final class BoundariesOfAnswersTest extends Checks {
 
     public static void main(String[] args) {
         cardsAlongThreads();
+        leavesAtMost();
         nthFromZero();
         rankOfAny();
         thereUpToAStep();
@@ -92,6 +93,22 @@ public final class BoundariesOfAnswersTest extends Checks {
         due("no other one", room.nth(120), NONE);
         due("rank of the last", room.rank(9999), 119);
         due("all were there", room.there(0, 9999, room.count(1)), 120);
+    }
+
+    private static void leavesAtMost() {
+        sentence("256 LEAVES at most");
+        DrawerRoom room = tens(2, 2);
+        // A thread that leads back, which no clerk lays: the row ends all the same.
+        Inside.set(room, 0, Inside.THREAD, 0);
+        due("256 times two cards", room.count(5), 512);
+        due("the first", room.nth(0), 10);
+        due("the last", room.nth(511), 20);
+        due("no other one", room.nth(512), NONE);
+        due("rank(10)", room.rank(10), 0);
+        due("rank(20)", room.rank(20), 256);
+        due("rank(21)", room.rank(21), 512);
+        due("each once", room.night(2), 1);
+        cards("each once", room, 10, 20);
     }
 
     private static void nthFromZero() {
