@@ -1057,12 +1057,14 @@ public final class DrawerRoom {
         }
 
         private void sortIn(int heading) {
+            if (sortedCount < 0 || sortedCount >= sorted.length) {
+                return;
+            }
             int place = sortedCount;
             while (place > 0 && filing.isAhead(heading, sorted[place - 1])) {
                 place--;
             }
-            boolean twice = place > 0 && sorted[place - 1] == heading;
-            if (twice || sortedCount >= sorted.length) {
+            if (place > 0 && sorted[place - 1] == heading) {
                 return;
             }
             for (int i = sortedCount; i > place; i--) {
